@@ -3,9 +3,24 @@ import java.util.List;
 /** Runs of drawn calls: the class must answer each of them as the model does. */
 public final class ModelTest {
     private static final int RUNS = 400;
-    private static final int CALLS = 512;
+    /** Of 512 calls an object has: the rest is for what pairs and colours must have in common. */
+    private static final int CALLS = 428;
+    private static final int[] PRIMES = {2, 3, 5, 7, 11, 13};
 
     private ModelTest() {
+    }
+
+    /** There is a colouring by p that isn't of one colour just if p divides the number of THE PAIR. */
+    private static void askPairs(Checks checks, StrandTangles object, long seed) {
+        for (int slot = 0; slot < 6; slot++) {
+            for (int side = 0; side < 2; side++) {
+                int value = object.link(slot, side, 4);
+                for (int p : PRIMES) {
+                    checks.due("seed " + seed + ", slot " + slot + ", side " + side + ": many colours by " + p,
+                            object.colours(slot, side, p) > 1 ? 1 : 0, value % p == 0 ? 1 : 0);
+                }
+            }
+        }
     }
 
     public static void main(String[] args) {
@@ -22,6 +37,7 @@ public final class ModelTest {
                 checks.due("seed " + seed + ", call " + i + ": " + call,
                         Caller.ask(object, call.name, call.args), want);
             }
+            askPairs(checks, object, seed);
         }
         checks.end();
     }
