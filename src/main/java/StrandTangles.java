@@ -892,14 +892,16 @@ public final class StrandTangles {
                         return i;
                     }
                 } else if (code == '+' || code == '*') {
-                    addWaiting(code == '+');
+                    if (code == '+') {
+                        endSum();
+                    }
                     postpone(code);
                     wantsPart = true;
                 } else {
                     return i;
                 }
             }
-            addWaiting(true);
+            endSum();
             return wantsPart || waiting > 0 ? length : -1;
         }
 
@@ -947,15 +949,15 @@ public final class StrandTangles {
             }
         }
 
-        private void addWaiting(boolean sumEnds) {
-            if (sumEnds && isWaiting('+')) {
+        private void endSum() {
+            if (isWaiting('+')) {
                 text.add(SUM);
                 waiting--;
             }
         }
 
         private boolean closes() {
-            addWaiting(true);
+            endSum();
             if (!isWaiting('(')) {
                 return false;
             }
