@@ -21,6 +21,10 @@ final class Checks {
         return wrong;
     }
 
+    int asked() {
+        return asked;
+    }
+
     void end() {
         System.out.println(asked + " answers asked, " + wrong + " not as due");
         if (wrong != 0 || asked == 0) {
