@@ -94,6 +94,32 @@ public final class LanguageTest {
         }
     }
 
+    /** Each line of the document's face, with its types, and each heading of the interface ahead of its calls. */
+    private static void document() throws IOException {
+        String text = Files.readString(Path.of("../shared/DOC.md"));
+        String source = Files.readString(Path.of("src/main/java/StrandTangles.java"));
+        Matcher lines = Pattern.compile("    public (int|long) (\\w+)\\(([^)]*)\\);").matcher(text);
+        int found = 0;
+        while (lines.find()) {
+            found++;
+            CHECKS.isTrue("the face has " + lines.group(), source.contains(lines.group().replace(";", " {")));
+        }
+        CHECKS.due("methods of the face", found, FACE.length);
+        Matcher headings = Pattern.compile("Ahead of the calls (.*?) the interface says: (----.*?)\\.\n").matcher(text);
+        int headed = 0;
+        while (headings.find()) {
+            int at = source.indexOf("// " + headings.group(2) + "\n");
+            int next = source.indexOf("// ----", at + 1);
+            Matcher calls = Pattern.compile("`(\\w+)`").matcher(headings.group(1));
+            while (calls.find()) {
+                int call = source.indexOf(" " + calls.group(1) + "(", at);
+                CHECKS.isTrue(calls.group(1) + " stands behind " + headings.group(2), at >= 0 && call > at && call < next);
+            }
+            headed++;
+        }
+        CHECKS.due("headings of the interface", headed, 6);
+    }
+
     private static void fields(Class<?> c) {
         int own = 0;
         for (Field f : c.getDeclaredFields()) {
@@ -109,6 +135,7 @@ public final class LanguageTest {
     public static void main(String[] args) throws IOException {
         text();
         face();
+        document();
         CHECKS.end();
     }
 }

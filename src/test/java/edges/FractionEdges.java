@@ -125,6 +125,12 @@ final class FractionEdges {
         danceOf(e, "2+t2", "202000");
         // -3 / 2, -1 / 2, 1 / 2, -2, -1, 0.
         danceOf(e, "m(2+t2)", "00200");
+        // 5 / 2, -2 / 5, 3 / 5, -5 / 3, -2 / 3, 1 / 3, -3, -2, -1, 0.
+        danceOf(e, "2+t-2", "202002000");
+        // 10 / 7, -7 / 10, 3 / 10, -10 / 3, 2 / 3 after four, -3 / 2, 1 / 2 after two, -2, 0 after two.
+        danceOf(e, "2+t(2+t4)", "20200002" + "00200");
+        // 12 / 5, -5 / 12, 7 / 12, -12 / 7, 2 / 7 after two, -7 / 2, 1 / 2 after four, -2, 0 after two.
+        danceOf(e, "2+tm(2+t-2)", "20200200" + "00200");
     }
 
     private static void least(Edge e) {

@@ -6,6 +6,11 @@ final class LinkEdges {
     private static final int[] PRIMES = {2, 3, 5, 7, 11, 13};
     /** Three columns of two crossings: three curves, each linked with both others. */
     private static final String THREE = "t2+t2+t2";
+    /**
+     * Twelve columns: of each the strand on one side is over the other one twice, by turns the west and the east one.
+     * So six curves are never under, and six are under four times: 30 arcs.
+     */
+    private static final String OVER = "t(1+-1)+t(-1+1)" + Edge.many("+t(1+-1)+t(-1+1)", 5);
     private static final String[] SIDE_ACTS = {"link(0, #, 0)", "link(0, #, 4)", "crossing(0, #, 0, 0)", "linked(0, #, 0, 1)",
         "gauss(0, 0, #, 0)", "colours(0, #, 2)", "name(0, #, 0)", "alike(0, #, 0, 0)", "alike(0, 0, 0, #)", "enter(0, #)"};
 
@@ -70,6 +75,8 @@ final class LinkEdges {
         e.sentence("x + y: ENDS NE, SE of x are joined to NW, SW of y; the others are its ENDS.");
         curves(e, "1+2", 0, row(1, -2, 3, -1, 2, -3));
         curves(e, "1+1", 1, row(1, -2, 2, -1));
+        curves(e, "1+(1+1)", 0, row(1, -2, 3, -1, 2, -3));
+        curves(e, "1+(1+(1*1))", 1, row(1, -2, 3, -4, 2, -1), row(-3, 4));
         curves(e, "0+2", 0, row(1, -2), row(-1, 2));
         curves(e, "i+2", 0, row(1, -2, 2, -1));
 
@@ -77,6 +84,7 @@ final class LinkEdges {
         curves(e, "1*1", 0, row(1, -2, 2, -1));
         curves(e, "1*1", 1, row(1, -2), row(-1, 2));
         curves(e, "1*2", 1, row(1, -3, 2, -1, 3, -2));
+        curves(e, "i*(i*(1*1))", 0, row(1, -2, 2, -1));
 
         e.sentence("t x: its ENDS NW, SW, SE, NE are NE, NW, SW, SE of x (CROSSINGS keep the names of their corners).");
         curves(e, "t2", 0, row(1, -2, 2, -1));
@@ -132,6 +140,10 @@ final class LinkEdges {
         e.sentence("BEGIN of a COMPONENT: its PASS with the least CROSSING, of both there over.");
         curves(e, "-1", 1, row(1, -1));
         curves(e, THREE, 0, row(1, -2, 6, -5), row(-1, 2, -4, 3), row(-3, 4, -6, 5));
+        // Between them i parts both: the second one is over where it begins, too.
+        curves(e, "2+i+2", 1, row(1, -2, 2, -1), row(3, -4, 4, -3));
+        curves(e, "2+i+-2", 1, row(1, -2, 2, -1), row(3, -4, 4, -3));
+        curves(e, "2+i+t(1+-1)", 1, row(1, -2, 2, -1), row(3, 4), row(-3, -4));
         e.sentence("COMPONENTS are numbered by their BEGINS likewise.");
         e.hold(0, "-1+1");
         e.dueEach("crossing(0, 0, #, 0)", 0, 0);
@@ -203,6 +215,9 @@ final class LinkEdges {
         e.dueEach("link(0, #, 2)", 3, 4);
         e.hold(0, "9+9+6");
         e.dueEach("link(0, #, 2)", 24, 24);
+        e.hold(0, OVER);
+        e.due("link(0, 0, 0)", 12);
+        e.due("link(0, 0, 2)", 30);
 
         e.sentence("COLOURS by p (2, 3, 5, 7, 11, 13): each ARC is given a number 0 to p - 1 so that at each CROSSING twice the number of"
                 + " the ARC that is over and the numbers of both ARCS that end there together leave the same by p.");
@@ -220,6 +235,8 @@ final class LinkEdges {
             e.due("colours(0, 0, " + p + ")", 2);
             e.hold(0, "t3+t3+t3");
             e.due("colours(0, 0, " + p + ")", p == 3 ? 3 : 1);
+            e.hold(0, OVER);
+            e.due("colours(0, 0, " + p + ")", 12);
             e.hold(0, "t2" + Edge.many("+t2", 11));
             e.due("colours(0, 0, " + p + ")", p == 2 ? 12 : p == 3 ? 2 : 1);
         }

@@ -119,6 +119,13 @@ final class NameEdges {
         nameOf(e, "2+t(3+t2)", 0, 8, 5, 5, 1, 0, 1, 2);
         // 3 / 2: 1, 2; the first changed leaves -1 / 2.
         nameOf(e, "-3", 0, 3, 2, 3, 1, 0, 1, 0);
+        // 207 / 128: 1, 1, 1, 1, 1, 1, 1, 2, 1, 2; only the change of the seventh leads to nought or one.
+        e.due("leaf(0, 2)", 2);
+        for (int twists : new int[] {1, 2, 1, 1, 1, 1, 1, 1, 1}) {
+            e.fed("turn mirror" + Edge.many(" twist", twists), "moves(0)", 2 + twists);
+        }
+        // EVEN: 2, -2, -2, 2, 2, -2, 2, 2.
+        e.dueEach("name(0, 0, #)", 207, 128, 12, 4, 0, 1, 6);
         e.sentence("UNLINK of a NAME: 0, if P is 0 or 1; else 1 more than the least UNLINK of what comes of a CHANGE.");
         String[] texts = {"0", "1", "i", "t5", "2", "3", "4", "5", "9", "9+2", "9+3", "-2", "-3", "-4", "-5", "2+t-2", "4+t-2"};
         long[] want = {0, 0, 0, 0, 1, 1, 2, 2, 4, 5, 6, 1, 1, 2, 2, 1, 1};
@@ -258,6 +265,25 @@ final class NameEdges {
         e.refused("alike(0, 1, 0, 1)", STATE);
     }
 
+    /** How many there are of each size, and that each stands behind the one ahead by P, then by Q. */
+    private static void order(Edge e) {
+        long[] many = {1, 2, 3, 6, 10, 20, 36, 72, 136, 272, 528};
+        for (int size = 2; size <= 12; size++) {
+            e.another();
+            e.due("listed(" + size + ", 0, -1)", many[size - 2]);
+            long before = 0;
+            for (int i = 0; i < many[size - 2]; i++) {
+                if (i % 200 == 0) {
+                    e.another();
+                }
+                long name = 1000 * e.asked("listed(" + size + ", " + i + ", 0)") + e.asked("listed(" + size + ", " + i + ", 1)");
+                e.isTrue("of size " + size + " the " + i + "-th stands behind the one ahead", name > before);
+                before = name;
+            }
+            e.due("listed(" + size + ", " + many[size - 2] + ", 0)", NONE);
+        }
+    }
+
     private static void listedPromise(Edge e) {
         e.section("Promise 19");
         e.sentence("All NAMES of a SIZE (2 to 12), by P, of these by Q: what -1 how many there are; 0 P, 1 Q of the i-th (from 0).");
@@ -279,6 +305,7 @@ final class NameEdges {
         e.due("listed(12, 527, 0)", 233);
         e.due("listed(12, 527, 1)", 89);
         e.harmless("listed(12, 527, 1)", 89);
+        order(e);
         e.sentence("BEYOND: size, what; i below 0 (what 0, 1).");
         e.refusedFor("listed(#, 0, -1)", BEYOND, "1", "13", "0", "-2", "MIN", "MAX");
         e.refusedFor("listed(#, 0, 0)", BEYOND, "1", "13", "MIN", "MAX");

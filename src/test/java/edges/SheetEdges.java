@@ -101,6 +101,8 @@ final class SheetEdges {
         rowOf(e, 3, 10, -4, -2, -1, -1);
         rowOf(e, 2, 6, 9, 0, 2, -2);
         rowOf(e, 1, 0, -5, 0);
+        rowOf(e, 0, 5, -1, -5);
+        rowOf(e, 3, -5, -1, 5);
         rowOf(e, 0, 999999999, 999999999, 1);
         e.refused("terms(0, 5, 0, 0)", BEYOND);
         e.refused("terms(0, 0, 0, 0)", BEYOND);

@@ -154,6 +154,17 @@ final class TapeEdges {
         e.tape(full + "+0-");
         e.emptied("tangle(0)", -10 - 99);
 
+        // What a wrong text left open is forgotten.
+        for (String wrong : new String[] {"t(t(t(x", "((((((", "1+(2*x", "tttttt-"}) {
+            e.another();
+            e.tape(wrong);
+            e.emptied("tangle(0)", -10 - wrong.length() + (wrong.endsWith("x") ? 1 : 0));
+            e.fed("t(t(t(2)))", "tangle(0)", 2);
+            e.due("slot(0, 2)", 4);
+            e.fed("3", "tangle(0)", 3);
+            e.pair(0, 3, 1);
+        }
+
         e.sentence("how many there are, if it ends too early.");
         String[] early = {"", "-", "(", "t", "m", "1+", "1*", "(1", "((1)", "t-", "1+(", "mt"};
         for (String text : early) {
@@ -182,7 +193,9 @@ final class TapeEdges {
             e.hold(0, "t3");
             e.fed(words[i], "moves(0)", 1);
             e.pair(0, want[i][0], want[i][1]);
-            for (String wrong : new String[] {words[i].substring(1), words[i].substring(0, words[i].length() - 1), words[i] + "s",
+            String first = words[i].substring(0, 1);
+            for (String wrong : new String[] {words[i].substring(1), "x" + words[i].substring(1), words[i].replaceFirst(".$", "x"),
+                first, words[i].substring(0, words[i].length() - 1), words[i] + "s",
                 words[i].toUpperCase(), "\t" + words[i], words[i] + "\n", words[i] + "\u00a0", words[i] + "," + words[i]}) {
                 e.tape(wrong);
                 e.emptied("moves(0)", -10);

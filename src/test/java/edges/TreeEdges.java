@@ -160,6 +160,23 @@ final class TreeEdges {
         e.due("slot(0, 2)", 60);
     }
 
+    /** Nested to the right no node is done before the last leaf has come: as many wait as there may be. */
+    private static void nestedToTheRight(Edge e, int how) {
+        e.another();
+        e.due("leaf(0, 1)", 1);
+        e.due("leaf(1, 1)", 1);
+        for (int leaves = 2; leaves <= 24; leaves++) {
+            e.due("join(0, 1, " + how + ", 1)", leaves);
+        }
+        e.dueEach("slot(1, #)", 24, 24, 47, 24);
+        e.pair(1, how == 0 ? 24 : 1, how == 0 ? 1 : 24);
+        e.due("slot(1, 6)", 1);
+        // One below the other, strands go together at each crossing, to the east or to the west, on both sides.
+        e.dueEach("link(1, 0, #)", how == 0 ? 2 : 1, 0, 24, 24);
+        e.dueEach("link(1, 1, #)", how == 0 ? 1 : 2, 0, 24, how == 0 ? -24 : 24);
+        e.refused("join(0, 1, " + how + ", 1)", FULL);
+    }
+
     private static void depths(Edge e) {
         e.sentence("DEPTH: of a LEAF 1;");
         e.due("leaf(0, -9)", 9);
@@ -180,6 +197,8 @@ final class TreeEdges {
         }
         e.due("slot(0, 3)", 60);
         e.refused("move(0, 2)", FULL);
+        nestedToTheRight(e, 0);
+        nestedToTheRight(e, 1);
     }
 
     private static void pairs(Edge e) {
