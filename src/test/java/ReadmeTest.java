@@ -12,8 +12,6 @@ import java.util.List;
 import java.util.regex.Matcher;
 import java.util.regex.Pattern;
 import java.util.stream.Stream;
-import javax.tools.JavaCompiler;
-import javax.tools.ToolProvider;
 
 /** The example of README.md is compiled as it stands there, and each of its calls answers what it says. */
 public final class ReadmeTest {
@@ -54,9 +52,9 @@ public final class ReadmeTest {
         try {
             Path file = room.resolve("ReadmeExample.java");
             Files.writeString(file, classOf(calls));
-            JavaCompiler compiler = ToolProvider.getSystemJavaCompiler();
             String known = System.getProperty("java.class.path");
-            int failed = compiler.run(null, null, null, "-cp", known, "-d", room.toString(), file.toString());
+            int failed = new ProcessBuilder("javac", "-cp", known, "-d", room.toString(), file.toString())
+                    .inheritIO().start().waitFor();
             CHECKS.due("the example's compilation", failed, 0);
             if (failed != 0) {
                 return new long[0];

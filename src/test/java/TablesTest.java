@@ -2,8 +2,8 @@ import java.util.HashSet;
 import java.util.Set;
 
 /**
- * Knots and links with two bridges as the printed tables have them (Conway's and Rolfsen's): these
- * answers come from outside the document, so a misreading of it can't stand in both.
+ * Knots and links with two bridges as the known tables have them (Conway's and Rolfsen's, written down
+ * from memory): these answers come from outside the document, so a misreading of it can't stand in both.
  */
 public final class TablesTest {
     private static final Checks CHECKS = new Checks();
