@@ -13,7 +13,7 @@ import java.util.regex.Matcher;
 import java.util.regex.Pattern;
 import java.util.stream.Stream;
 
-/** The example of README.md is compiled as it stands there, and each of its calls answers what it says. */
+/** The calls of README.md's example are compiled in their order, and each answers what README.md says. */
 public final class ReadmeTest {
     private static final Checks CHECKS = new Checks();
     private static final String MADE = "StrandTangles x = new StrandTangles();";
